@@ -822,7 +822,7 @@ public final class StairGang {
         private static final int MINUS = -10;
         private static final int TIMES = -11;
 
-        private static final int AND_OR_LEVEL = 0;
+        static final int AND_OR_LEVEL = 0;
         private static final int TEST_LEVEL = 1;
         private static final int SUM_LEVEL = 2;
         private static final int PART_LEVEL = 4;
@@ -856,12 +856,8 @@ public final class StairGang {
             }
         }
 
-        void readLaw(Tokens tokens) {
-            readLevel(tokens, AND_OR_LEVEL, 0);
-        }
-
         /** Reads what one level joins; each level's sides are of the level behind it, and PARTS are behind all. */
-        private void readLevel(Tokens tokens, int level, int depth) {
+        void readLevel(Tokens tokens, int level, int depth) {
             if (level >= PART_LEVEL) {
                 readPart(tokens, depth);
                 return;
@@ -1191,7 +1187,7 @@ public final class StairGang {
                         break;
                     case Tokens.PRICE_WORD:
                         takeOnce(town.price.isTold());
-                        town.price.readLaw(tokens);
+                        town.price.readLevel(tokens, Price.AND_OR_LEVEL, 0);
                         tokens.takeSign(';');
                         break;
                     default:
@@ -1513,7 +1509,7 @@ public final class StairGang {
         int lineCount;
         int seenCount;
         private final int[] seenLacks = new int[MOST_SEEN];
-        private final boolean[] seenCame = new boolean[MOST_SEEN];
+        private int seenCame;
 
         void clear() {
             lineCount = 0;
@@ -1524,7 +1520,7 @@ public final class StairGang {
             tell(other.lines, other.lineCount);
             seenCount = other.seenCount;
             System.arraycopy(other.seenLacks, 0, seenLacks, 0, MOST_SEEN);
-            System.arraycopy(other.seenCame, 0, seenCame, 0, MOST_SEEN);
+            seenCame = other.seenCame;
         }
 
         void tell(int[] newLines, int count) {
@@ -1537,7 +1533,7 @@ public final class StairGang {
                 return false;
             }
             seenLacks[seenCount] = lack;
-            seenCame[seenCount] = came;
+            seenCame = seenCame & ~(1 << seenCount) | (came ? 1 << seenCount : 0);
             seenCount++;
             return true;
         }
@@ -1546,7 +1542,8 @@ public final class StairGang {
         boolean isSo(int there) {
             for (int i = 0; i < seenCount; i++) {
                 boolean comes = (seenLacks[i] & ~there) == 0;
-                if (comes != seenCame[i]) {
+                boolean came = (seenCame >> i & 1) == 1;
+                if (comes != came) {
                     return false;
                 }
             }
