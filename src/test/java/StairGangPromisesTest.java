@@ -359,6 +359,15 @@ public final class StairGangPromisesTest {
         due(9, "climbs both", x.cost(0, 7), 40 + 20 + 4 + 8);
         due(9, "walk of 5 if it is not told", of(WAYS).cost(1, 0), 5);
         due(9, "walk of 0", of(WAYS + "walk 0;").cost(1, 1), 10);
+        StairGang y = of("house a floors 1;house b floors 1;house c floors 1;house d floors 1;house e floors 5;flight e 4 rise 9 odds 0;"
+                + "person p at e 5 reach 0 throws 0 wants e 5;person q at a 1 reach 0 throws 0 wants e 5;");
+        due(8, "the last PLACE of all", y.reach(0), 3 << 28);
+        due(9, "from the last PLACE of all", y.cost(0, 28), 9);
+        due(28, "the last PLACE of all is not the first one", y.best(0, 1), 28);
+        due(13, "out of the last PLACE of all", y.go(0, 28), true);
+        y.steal(0);
+        due(28, "the last PLACE of all", y.best(1, 1), 29);
+        due(9, "beyond it", y.cost(0, 30), -1);
     }
 
     private static void thefts() {
@@ -418,6 +427,18 @@ public final class StairGangPromisesTest {
         priceIs("(9999*9999*9999<0)*8", 8);
         priceIs("(1<2)*(high-gone)*nights", 12);
         priceIs("((((high))))", 6);
+        priceIs("(7 and 0)+5", 5);
+        priceIs("(0 and 7)+5", 5);
+        priceIs("(0 or 0)+5", 5);
+        priceIs("(6<6)+5", 5);
+        priceIs("(7<6)+5", 5);
+        priceIs("(5=6)+5", 5);
+        priceIs("not 7+5", 5);
+        priceIs("40-(2*3<7)*3-(1=1)*5", 32);
+        // all sides wait on all levels: 4 * 2 + 3 = 11 within, then 2 < 3 + 4 * (1) and so on
+        priceIs("1 and 2<3+4*(1 and 2<3+4*(1 and 2<3+4*(1 and 2<3+4*(4*2+3))))", 1);
+        priceIs("0 or 0 or 3+4*(0 or 3+4*(0 or 3+4*(0 or 3+4*2)))", 1);
+        priceIs("3+4*(3+4*(3+4*(3+4*(2))))", 767);
         StairGang x = of("house a floors 2;flight a 0 rise 3 odds 0;flight a 1 rise 4 odds 0;heap 9;price gone+10;");
         due(11, "gone without this one", x.steal(1), 10);
         x.build(1);
@@ -561,6 +582,21 @@ public final class StairGangPromisesTest {
         nights(z, "night;steal a 0;build a 0;steal a 0;night;");
         due(17, "CUT OFF for a while", z.judged(1), 1);
         due(17, "all can be", z.judged(0), -1);
+        StairGang w = of("house a floors 1;house b floors 1;flight b 0 rise 5 odds 0;flight a 0 rise 6 odds 0;thing t lifts 1 at a 0;"
+                + "thing u lifts 2 at b 0;thing v lifts 3 at a 0;person p at a 0 reach 0 throws 0 wants a 0;"
+                + "person q at b 0 reach 3 throws 0 wants a 0;");
+        nights(w, "carry q t a 0;carry p u a 0;carry q u b 1;carry q u b 0;go q a 0;carry q v b 0;steal b 0;go q b 1;");
+        due(17, "q is not with t", w.judged(0), 0);
+        due(17, "on u and v he comes down again", w.judged(1), -1);
+        due(17, "b 0 is sold", w.judged(2), 5);
+        nights(w, "carry q u b 1;steal b 0;");
+        due(17, "u is with q and can be carried", w.judged(0), -1);
+        due(17, "q can't come down without u below", w.judged(1), 1);
+        nights(w, "carry p v b 0;carry p t a 0;");
+        due(17, "t is not where p is now", w.judged(0), 1);
+        nights(w, "carry p v b 0;go q a 1;carry p v b 0;carry p u b 1;steal b 0;carry q u b 1;go p b 0;");
+        due(17, "a 0 is there, p is with v, and with u", w.judged(0), 5);
+        due(17, "p at b 1 can't come down, with v alone below", w.judged(1), 4);
     }
 
     private static void alone() {
@@ -691,6 +727,20 @@ public final class StairGangPromisesTest {
         due(22, "one is not there, or the other, or both", z.fits(0), 3);
         due(22, "in all", z.fits(1), 0);
         due(22, "in some", z.fits(2), 3);
+        StairGang w = of("house a floors 1;flight a 0 rise 1 odds 0;person p at a 0 reach 0 throws 0 wants a 0;");
+        w.mark(0, false);
+        w.see(0, 1, true);
+        due(22, "it is there", w.fits(1), 1);
+        w.mark(0, true);
+        w.see(0, 1, false);
+        due(22, "SEEN anew: it is not", w.fits(2), 0);
+        w.see(0, 0, true);
+        due(22, "the first one stays", w.fits(0), 1);
+        w.mark(1, false);
+        w.see(0, 1, true);
+        due(22, "both can't be", w.fits(0), 0);
+        w.mark(1, true);
+        due(22, "back", w.fits(0), 1);
     }
 
     private static void orders() {
@@ -733,6 +783,29 @@ public final class StairGangPromisesTest {
         due(23, "first row: none", y.orders(4), -1);
         due(23, "the seventh", y.orders(8), -1);
         due(23, "no eighth", y.orders(9), -2);
+        StairGang v = of("house a floors 5;house b floors 5;flight a 4 rise 5 odds 0;flight a 3 rise 5 odds 0;flight a 2 rise 5 odds 0;"
+                + "flight a 1 rise 5 odds 0;flight a 0 rise 5 odds 0;flight b 4 rise 5 odds 0;flight b 3 rise 5 odds 0;hill k rise 36 pays 3;");
+        for (int i = 0; i < 7; i++) {
+            v.steal(i);
+        }
+        due(23, "35 is too little", v.orders(0), 0);
+        due(23, "none is given", v.orders(1), 0);
+        for (int i = 0; i < 7; i++) {
+            due(23, "none for the flight " + i, v.orders(2 + i), -1);
+        }
+        StairGang u = of("house a floors 3;flight a 2 rise 8 odds 0;flight a 1 rise 3 odds 0;flight a 0 rise 4 odds 0;"
+                + "hill k rise 7 pays 2;hill l rise 7 pays 2;");
+        for (int i = 0; i < 3; i++) {
+            u.steal(i);
+        }
+        due(23, "both pay", u.orders(0), 4);
+        due(23, "8 for the first HILL, for the first row", u.orders(2), 0);
+        due(23, "3 + 4 for the second", u.orders(4), 1);
+        StairGang t = of("house a floors 2;flight a 1 rise 8 odds 0;flight a 0 rise 7 odds 0;hill k rise 9 pays 9;hill l rise 7 pays 2;");
+        t.steal(0);
+        due(23, "8 for l", t.orders(1), 8);
+        t.steal(1);
+        due(23, "15 for k", t.orders(0), 9);
         StairGang z = of("house a floors 2;flight a 0 rise 5 odds 0;flight a 1 rise 5 odds 0;hill k rise 5 pays 0;hill l rise 9 pays 4;");
         z.steal(1);
         due(23, "nothing is given for no pay", z.orders(1), 0);
@@ -784,6 +857,8 @@ public final class StairGangPromisesTest {
         StairGang y = of(houses + "flight a 0 rise 1 odds 0;flight a 1 rise 1 odds 0;" + people[0] + people[1] + people[3]);
         y.steal(1);
         due(25, "what is gone needs none", y.watch(), 3);
+        due(25, "the fewest, though another set is less", of(houses + "flight a 0 rise 1 odds 0;flight b 0 rise 1 odds 0;" + people[1] + people[4]
+                + people[0] + people[2]).watch(), 12);
     }
 
     private static int restsOf(StairGang x, int one, int other, int flight, int what) {
