@@ -1514,6 +1514,7 @@ public final class StairGang {
         void clear() {
             lineCount = 0;
             seenCount = 0;
+            seenCame = 0;
         }
 
         void copy(Said other) {
@@ -1533,7 +1534,7 @@ public final class StairGang {
                 return false;
             }
             seenLacks[seenCount] = lack;
-            seenCame = seenCame & ~(1 << seenCount) | (came ? 1 << seenCount : 0);
+            seenCame |= came ? 1 << seenCount : 0;
             seenCount++;
             return true;
         }

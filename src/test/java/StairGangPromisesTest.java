@@ -435,8 +435,9 @@ public final class StairGangPromisesTest {
         priceIs("(5=6)+5", 5);
         priceIs("not 7+5", 5);
         priceIs("40-(2*3<7)*3-(1=1)*5", 32);
-        // all sides wait on all levels: 4 * 2 + 3 = 11 within, then 2 < 3 + 4 * (1) and so on
-        priceIs("1 and 2<3+4*(1 and 2<3+4*(1 and 2<3+4*(1 and 2<3+4*(4*2+3))))", 1);
+        // four sides wait on each of the five levels; 4 < 3 + 4 * x is 1 for x 1, 0 for x 0, so the innermost number decides
+        priceIs("0 or 4<3+4*(0 or 4<3+4*(0 or 4<3+4*(0 or 4<3+4*(0 or 4<3+4*1))))", 1);
+        priceIs("0 or 4<3+4*(0 or 4<3+4*(0 or 4<3+4*(0 or 4<3+4*(0 or 4<3+4*0))))", 0);
         priceIs("0 or 0 or 3+4*(0 or 3+4*(0 or 3+4*(0 or 3+4*2)))", 1);
         priceIs("3+4*(3+4*(3+4*(3+4*(2))))", 767);
         StairGang x = of("house a floors 2;flight a 0 rise 3 odds 0;flight a 1 rise 4 odds 0;heap 9;price gone+10;");
@@ -741,6 +742,12 @@ public final class StairGangPromisesTest {
         due(22, "both can't be", w.fits(0), 0);
         w.mark(1, true);
         due(22, "back", w.fits(0), 1);
+        StairGang v = of("house a floors 1;flight a 0 rise 1 odds 0;person p at a 0 reach 0 throws 0 wants a 0;");
+        v.see(0, 1, true);
+        town(v, "house a floors 1;flight a 0 rise 1 odds 0;person p at a 0 reach 0 throws 0 wants a 0;");
+        v.see(0, 1, false);
+        due(22, "of the old town nothing is SEEN", v.fits(3), 0);
+        due(22, "it is not there", v.fits(0), 1);
     }
 
     private static void orders() {
