@@ -17,6 +17,7 @@ public final class StairGangCallEdgesTest {
     private static int wrong = 0;
 
     public static void main(String[] args) {
+        nothing();
         calls();
         places();
         climbing();
@@ -125,6 +126,45 @@ public final class StairGangCallEdgesTest {
             s.append("flight ").append("ab".charAt(i / 5)).append(' ').append(4 - i % 5).append(rest);
         }
         return s.toString();
+    }
+
+    private static void nothing() {
+        says("Nothing.");
+        nothingIn(new StairGang());
+        says("TOWN: any number of");
+        nothingIn(of(""));
+        StairGang x = of(TWO, 0);
+        told(x, "steal a 0;night;");
+        x.see(0, 1, true);
+        x.mark(0, false);
+        due("an empty TOWN behind a full one", x.town(), 0);
+        nothingIn(x);
+    }
+
+    private static void nothingIn(StairGang x) {
+        int[] none = {x.flight(0, 0), x.flight(0, 4), x.person(0, 0), x.person(0, 3), x.thing(0), x.reach(0), x.cost(0, 0), x.steal(0), x.build(0),
+            x.alone(0), x.post(0, 0), x.post(0, 1), x.live(0, 0, 1), x.best(0, 1), x.judged(0), x.judged(1)};
+        for (int i = 0; i < none.length; i++) {
+            due("none, the " + i + "-th", none[i], -1);
+        }
+        int[] zero = {x.cut(), x.judged(2), x.plan(0), x.plan(1), x.thefts(0, 0, 0), x.thefts(10, 5, 1), x.fits(1), x.fits(2), x.fits(3),
+            x.orders(0), x.orders(1), x.watch(), x.years(0, 1, 0), x.years(9999, 100, 1), x.years(7, 50, 2)};
+        for (int i = 0; i < zero.length; i++) {
+            due("0, the " + i + "-th", zero[i], 0);
+        }
+        due("one set, the empty one", x.fits(0), 1);
+        due("no row", x.orders(2), -2);
+        due("go", x.go(0, 0), false);
+        due("carry", x.carry(0, 0, 0), false);
+        due("see", x.see(0, 0, true), false);
+        due("undo", x.undo(), false);
+        due("rests", restsOf(x, 0, 1, 0, -1), NO_SUCH);
+        for (int mark = 0; mark < 4; mark++) {
+            due("mark " + mark, x.mark(mark, true), false);
+        }
+        for (int what = 0; what < 13; what++) {
+            due("count " + what, x.count(what), 0);
+        }
     }
 
     private static void calls() {
@@ -486,6 +526,14 @@ public final class StairGangCallEdgesTest {
         due("from the beginning on, the first that can be", told(of(cut), "build a 0;go p a 2;night;").judged(1), 2);
         due("none can be", told(of(cut), "build a 0;go p a 2;").judged(1), -1);
         due("line 39", told(of(a), "night;".repeat(38) + "steal a 1;steal a 0;").judged(1), 39);
+        StairGang two = of(TWO);
+        due("flight 1, PERSON 1, THING 1", told(two, "steal b 0;go q a 0;go q a 1;go q b 0;carry q u a 0;build b 0;").judged(0), -1);
+        due("b 0 can't be built while it is there", told(two, "steal a 0;build b 0;").judged(0), 1);
+        due("b 0 is gone, and built", told(two, "steal b 0;build b 0;build b 0;").judged(0), 2);
+        due("q can come up to a 1, and down on t", told(two, "go q a 1;steal a 0;go q a 1;go q b 0;").judged(0), -1);
+        due("not down without t", told(two, "go q a 1;steal a 0;carry p t b 0;go q b 0;").judged(0), 3);
+        due("p can't go up where q could, on t with his reach of 2", told(two, "steal a 0;go p a 1;go q a 1;").judged(0), 1);
+        due("u is with q, not with p", told(two, "carry q u a 0;carry p t a 1;carry p u a 1;").judged(0), 2);
         says("what is sold at last");
         due("no NIGHTS", of(a).judged(2), 0);
         due("sold, built, sold", told(of(a), "steal a 1;steal a 0;build a 0;steal a 0;").judged(2), 16);
@@ -904,6 +952,10 @@ public final class StairGangCallEdgesTest {
         due("all ten sets, each cut", ten.live(0, 11, 9), allSets(1953, 10, 1000000));
         due("all of them needed", ten.live(0, 5, 1), 976);
         due("half of them needed", ten.live(0, 6, 1), allSets(500000, 5, 1000000L / 32));
+        StairGang oneGone = of("house a floors 1;house b floors 1;flight a 0 rise 5 odds 5;flight b 0 rise 5 odds 5;"
+                + "person p at a 0 reach 0 throws 0 wants a 1;", 1);
+        due("what is gone takes nothing off", oneGone.live(0, 0, 1), 500000);
+        due("nor in nine nights", oneGone.live(0, 0, 9), 1953);
         says("(for itself, whatever is above it)");
         StairGang above = of("house a floors 2;flight a 0 rise 5 odds 5;flight a 1 rise 5 odds 0;person p at a 0 reach 0 throws 0 wants a 1;");
         due("stolen below one that stays", above.live(0, 0, 1), 500000);
@@ -973,6 +1025,12 @@ public final class StairGangCallEdgesTest {
         due("0 in the second night", of(one + "5;").years(3, 2, 1), 1);
         due("the heap is one too small", of(one + "4;").years(3, 2, 1), 0);
         due("nothing is gone", of(one.replace("odds 10", "odds 0") + "5;").years(3, 2, 1), 1);
+        // SEED 5 draws 18655, 8457, 10616: one night of two flights, with a 0 for the building
+        String other = "house a floors 1;house b floors 1;flight a 0 rise 5 odds 0;flight b 0 rise 6 odds 10;heap ";
+        due("the first one that is gone, not the first one", of(other + "6;").years(5, 1, 1), 2);
+        due("the heap is one too small for it", of(other + "5;").years(5, 1, 1), 1);
+        due("the first of two, though the second one would do", of(other.replace("odds 0", "odds 10") + "5;").years(5, 1, 1), 1);
+        due("the first of two can't be: none is built", of(other.replace("rise 5 odds 0", "rise 7 odds 10") + "6;").years(5, 1, 1), 0);
         says("YEARS by a SEED of so many nights (1 to 100), from now on (all is as ahead then)");
         StairGang x = of(a.replace("ODDS", "10") + "heap 3;price high+nights*100;");
         x.night();
@@ -1025,6 +1083,27 @@ public final class StairGangCallEdgesTest {
             due("back to 3", x.mark(3, true), true);
             stands(x, 1, 1, 0, 0, 14, 1, 11, 2, 1, 2);
         }
+        StairGang v = of(TWO);
+        v.mark(2, false);
+        v.see(0, 1, true);
+        told(v, "steal a 0;");
+        v.mark(0, false);
+        v.mark(2, true);
+        v.see(1, 0, true);
+        v.see(0, 1, false);
+        told(v, "steal b 0;night;");
+        v.mark(1, false);
+        due("what is SEEN on 1: sets", v.fits(0), 2);
+        due("what is SEEN on 1: none has a 0", v.fits(2), 2);
+        due("the NIGHTS on 1", v.judged(2), 6);
+        due("back to 0", v.mark(0, true), true);
+        due("what is SEEN on 0: all have a 0", v.fits(1), 1);
+        due("the NIGHTS on 0", v.judged(2), 5);
+        due("back to 1", v.mark(1, true), true);
+        due("what is SEEN on 1, once more", v.fits(2), 2);
+        due("the NIGHTS on 1, once more", v.judged(2), 6);
+        due("lines on 1", v.count(9), 2);
+        due("SEEN on 1", v.count(10), 2);
         says("(nothing can be undone when one is gone back to)");
         x.night();
         due("one can be", x.count(11), 1);

@@ -441,6 +441,12 @@ public final class StairGangTextEdgesTest {
         due("told", soldBy("price 3;"), 3);
         StairGang y = twoTowns("price 3;", "house a floors 1;flight a 0 rise 7 odds 0;");
         due("not the one of the TOWN before", y.steal(0), 7);
+        StairGang z = twoTowns("price not high;", "price not not 5+not 3;");
+        for (String law : new String[] {"", "price high;", "price 7;", "price(high);"}) {
+            due("town", town(z, "house a floors 1;flight a 0 rise 7 odds 0;" + law), 0);
+            due("nor one of those ahead of it: " + law, z.steal(0), 7);
+            due("town", town(z, "price not high and not 3*not gone;"), 0);
+        }
     }
 
     private static StairGang twoTowns(String first, String second) {
@@ -825,11 +831,40 @@ public final class StairGangTextEdgesTest {
         badNights(t, "steal a ^9999;", 4);
     }
 
+    private static String fullTown() {
+        StringBuilder s = new StringBuilder(tenFlights(" rise 1 odds 0;").replace("house c floors 5;", "house hc floors 5;")
+                .replace("house a ", "house ha ").replace("house b ", "house hb ").replace("flight ", "flight h"));
+        s.append("house hd floors 1;house he floors 1;");
+        for (char c = 'a'; c <= 'e'; c++) {
+            s.append("person p").append(c).append(" at ha 0 reach 0 throws 0 wants ha 0;");
+        }
+        for (char c = 'a'; c <= 'd'; c++) {
+            s.append("hill l").append(c).append(" rise 1 pays 0;thing t").append(c).append(" lifts 1 at ha 0;");
+        }
+        return s + "heap 999;";
+    }
+
     private static void oneTooMany() {
         says("5 one too many: the words house, person of a sixth, flight of an eleventh, thing, hill of a fifth");
         bad(housesTold(5) + "heap 1;^house", 5);
         bad(tenFlights(" rise 1 odds 0;") + "heap 1;^flight", 5);
         bad("hill d rise 1 pays 0;hill c rise 1 pays 1;hill b rise 1 pays 2;hill a rise 1 pays 3;heap 1;^hill", 5);
+        says("5 at most .. 10 at most .. 4 at most .. 5 at most .. 4 at most");
+        StairGang full = of(fullTown());
+        counts(full, 5, 10, 4, 5, 4, 999, 0, 0, 10, 0, 0, 0, 0);
+        due("each by its NAME", nights(full, "go pa ha 1;go pb hb 1;go pc hc 1;go pd hd 1;go pe he 1;carry pa ta ha 0;carry pb tb ha 0;"
+                + "carry pc tc ha 0;carry pd td ha 0;steal ha 4;steal hb 4;"), 0);
+        badNights(fullTown(), "go ^la ha 0;", 2);
+        badNights(fullTown(), "go ^ta ha 0;", 2);
+        badNights(fullTown(), "carry pa ^pa ha 0;", 2);
+        badNights(fullTown(), "steal ^ta 0;", 2);
+        bad(fullTown() + "^hill", 5);
+        bad(fullTown() + "^house", 5);
+        bad(fullTown() + "^thing", 5);
+        bad(fullTown() + "^person", 5);
+        bad(fullTown() + "^flight", 5);
+        bad(fullTown() + "^heap", 3);
+        good(fullTown() + "walk 60;price 0;");
         says("the first word of a 41st line of NIGHTS");
         StairGang x = of("heap 1;");
         due("41 lines", nights(x, "night;".repeat(41)), 5 + 16 * 240);
