@@ -381,6 +381,11 @@ public final class StairGangPromisesTest {
         due(11, "no flight", x.steal(-1), -1);
         due(11, "sold", x.count(7), 21);
         due(11, "left", x.count(8), 0);
+        StairGang y = of("house a floors 3;flight a 0 rise 40 odds 0;flight a 1 rise 6 odds 0;flight a 2 rise 7 odds 0;");
+        due(11, "the top one", y.steal(2), 7);
+        due(11, "of the two above it one is there still", y.steal(0), -1);
+        due(11, "the middle one", y.steal(1), 6);
+        due(11, "both above it are gone", y.steal(0), 40);
     }
 
     private static void priceIs(String law, int want) {
@@ -677,6 +682,9 @@ public final class StairGangPromisesTest {
                 + "person p at b 0 reach 0 throws 0 wants b 1;person q at a 0 reach 1 throws 0 wants a 2;");
         due(20, "7 by one, for the fewest", w.thefts(2, 1, 0), 7);
         due(20, "7 by one, for the fewest", w.thefts(2, 1, 1), 4);
+        StairGang v = of("house a floors 3;flight a 0 rise 40 odds 0;flight a 1 rise 6 odds 0;flight a 2 rise 7 odds 0;");
+        due(20, "not the lowest and the highest, which leave one between", v.thefts(2, 0, 0), 13);
+        due(20, "all three", v.thefts(3, 0, 0), 53);
     }
 
     private static void seen() {
@@ -907,6 +915,9 @@ public final class StairGangPromisesTest {
         due(26, "bids end at 9", restsOf(y, 0, 1, 0, -1), 1);
         due(26, "9, 9", restsOf(y, 0, 1, 0, 0), 99);
         due(26, "9, 9", restsOf(y, 2, 1, 0, 0), 99);
+        StairGang z = of("house a floors 1;flight a 0 rise 11 odds 0;hill k rise 10 pays 4;hill l rise 20 pays 5;");
+        due(26, "a rise above its own is worth all, as an equal one is", restsOf(z, 0, 1, 0, -1), 4);
+        due(26, "4, 4", restsOf(z, 0, 1, 0, 3), 44);
     }
 
     private static void live() {
@@ -945,6 +956,9 @@ public final class StairGangPromisesTest {
         due(28, "the street", z.best(0, 3), 0);
         StairGang w = of("house a floors 1;house b floors 1;person p at a 0 reach 0 throws 0 wants b 1;");
         due(28, "his own wish", w.best(0, 3), 7);
+        StairGang v = of("house a floors 1;flight a 0 rise 5 odds 5;thing t lifts 5 at a 0;person p at a 0 reach 0 throws 0 wants a 1;");
+        due(27, "the first THING lifts him, whatever is stolen", v.live(0, 0, 1), 1000000);
+        due(28, "so the street is as good as his wish", v.best(0, 1), 0);
     }
 
     private static void years() {
@@ -976,6 +990,11 @@ public final class StairGangPromisesTest {
         due(29, "22117: 7 is not; 3498: 8 is not; 16927 by 4 leaves 3", y.years(0, 2, 1), 2);
         StairGang z = of("house a floors 1;house b floors 1;flight a 0 rise 5 odds 1;flight b 0 rise 4 odds 9;heap 4;");
         due(29, "the first one that is gone is too dear, and no other is built", z.years(0, 1, 1), 0);
+        // SEED 3 draws 17747, 7107, 10365, 8312
+        StairGang w = of("house a floors 1;house b floors 1;house c floors 1;flight a 0 rise 5 odds 0;flight b 0 rise 6 odds 0;"
+                + "flight c 0 rise 7 odds 6;heap 9;");
+        due(29, "10365: 5 is below 6: the third is stolen", w.years(3, 1, 0), 7);
+        due(29, "8312 by 4 leaves 0: the first one gone, behind two that are there, is built", w.years(3, 1, 1), 3);
     }
 
     private static void marks() {
